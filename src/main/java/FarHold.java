@@ -1057,6 +1057,7 @@ public final class FarHold {
         private final boolean[] isNext = new boolean[MOST_THINGS];
         private final Thing[] before = new Thing[MOST_THINGS];
         private final int[] depth = new int[MOST_THINGS];
+        private int nextSize = 0;
 
         boolean has(Thing t) {
             return found.has(t);
@@ -1091,13 +1092,16 @@ public final class FarHold {
         }
 
         private void markNextThing(Thing t) {
-            if (t != null && t.isThere && t.number < isNext.length) isNext[t.number] = true;
+            if (t == null || !t.isThere || t.number >= isNext.length || isNext[t.number]) return;
+            isNext[t.number] = true;
+            nextSize++;
         }
 
         private void addNextByNumbers(Thing from, Things things) {
-            for (int n = 0; n < things.size() && n < isNext.length; n++) {
+            for (int n = 0; nextSize > 0 && n < things.size() && n < isNext.length; n++) {
                 if (!isNext[n]) continue;
                 isNext[n] = false;
+                nextSize--;
                 Thing t = things.find(n);
                 if (t != null && !found.has(t)) addBehind(t, from);
             }
