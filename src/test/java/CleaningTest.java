@@ -16,7 +16,7 @@ public final class CleaningTest {
         DUE.due(call, got, want);
     }
 
-    private static void dueFreed(FarHold x, int... want) {
+    private static void dueFreed(House x, int... want) {
         for (int i = 0; i < want.length; i++) due("freed(" + i + ")", x.freed(i), want[i]);
         due("freed(" + want.length + ")", x.freed(want.length), -1);
         due("freed(-1)", x.freed(-1), -1);
@@ -24,7 +24,7 @@ public final class CleaningTest {
     }
 
     private static void onlyWhatIsNotKept() {
-        FarHold x = new FarHold();
+        House x = new House();
         x.root(3, 4);
         x.box(0, 0, 2);
         x.leaf(1, 0, 1);
@@ -49,7 +49,7 @@ public final class CleaningTest {
     }
 
     private static void ringsOfOneHost() {
-        FarHold x = new FarHold();
+        House x = new House();
         x.root(0, 2);
         x.box(0, 0, 2);
         x.box(1, 0, 2);
@@ -63,7 +63,7 @@ public final class CleaningTest {
     }
 
     private static void exitsKeep() {
-        FarHold x = new FarHold();
+        House x = new House();
         x.root(0, 2);
         x.root(1, 2);
         x.box(0, 0, 2);
@@ -85,7 +85,7 @@ public final class CleaningTest {
     }
 
     private static void gatesGoHome() {
-        FarHold x = new FarHold();
+        House x = new House();
         x.root(0, 4);
         x.root(5, 4);
         for (int n = 0; n < 3; n++) {
@@ -107,7 +107,7 @@ public final class CleaningTest {
     }
 
     private static void refusals() {
-        FarHold x = new FarHold();
+        House x = new House();
         x.root(0, 2);
         x.leaf(0, 0, 0);
         x.clear(0, 0);
@@ -123,7 +123,7 @@ public final class CleaningTest {
 
     /** Two gates must go home where 599 letters have been made. */
     private static void noRoomForHomes() {
-        FarHold x = new FarHold();
+        House x = new House();
         x.root(0, 8);
         x.root(1, 8);
         for (int n = 0; n < 2; n++) {

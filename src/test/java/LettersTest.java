@@ -20,22 +20,22 @@ public final class LettersTest {
         DUE.due(call, got, want);
     }
 
-    private static void dueLetter(FarHold x, int l, int... want) {
+    private static void dueLetter(House x, int l, int... want) {
         for (int what = 0; what < want.length; what++) {
             due("letter(" + l + ", " + what + ")", x.letter(l, what), want[what]);
         }
     }
 
     /** Root h of each host h 0 to 2, leaf 3 in root 0. */
-    private static FarHold threeHosts() {
-        FarHold x = new FarHold();
+    private static House threeHosts() {
+        House x = new House();
         for (int host = 0; host < 3; host++) x.root(host, 8);
         x.leaf(0, 0, 7);
         return x;
     }
 
     private static void sendRefused() {
-        FarHold x = threeHosts();
+        House x = threeHosts();
         x.box(0, 1, 1);
         x.clear(0, 1);
         due("send(9, 1, 0)", x.send(9, 1, 0), -1);
@@ -54,7 +54,7 @@ public final class LettersTest {
     }
 
     private static void nameOfAThing() {
-        FarHold x = threeHosts();
+        House x = threeHosts();
         due("send(3, 1, 2)", x.send(3, 1, 2), 0);
         due("exit", x.thing(3, 6), 64);
         due("send(3, 2, 3)", x.send(3, 2, 3), 1);
@@ -73,7 +73,7 @@ public final class LettersTest {
     }
 
     private static void nameToAGateThatIsThere() {
-        FarHold x = threeHosts();
+        House x = threeHosts();
         x.send(3, 1, 0);
         x.send(3, 1, 1);
         x.row(1, 1, 0, 2);
@@ -85,7 +85,7 @@ public final class LettersTest {
     }
 
     private static void nameFromAGate() {
-        FarHold x = threeHosts();
+        House x = threeHosts();
         x.send(3, 1, 0);
         x.deliver(0);
         due("a gate of 64 on", x.send(4, 2, 0), 1);
@@ -108,8 +108,8 @@ public final class LettersTest {
     }
 
     /** Gate 4 of host 1 for leaf 3, with weight 1, by letters 0 to 6. */
-    private static FarHold withWeightOne() {
-        FarHold x = threeHosts();
+    private static House withWeightOne() {
+        House x = threeHosts();
         x.send(3, 1, 0);
         x.deliver(0);
         for (int l = 1; l <= 6; l++) x.send(4, 2, 1);
@@ -117,7 +117,7 @@ public final class LettersTest {
     }
 
     private static void weightOneWaits() {
-        FarHold x = withWeightOne();
+        House x = withWeightOne();
         due("weight", x.thing(4, 5), 1);
         due("send(4, 2, 5)", x.send(4, 2, 5), 7);
         dueLetter(x, 7, 1, 1, 0, 1, 3, 0, -1, -1, -1, 0, -1);
@@ -143,7 +143,7 @@ public final class LettersTest {
     }
 
     private static void firstThatWaitsForTheGate() {
-        FarHold x = withWeightOne();
+        House x = withWeightOne();
         x.leaf(0, 1, 8);
         x.send(5, 1, 1);
         x.deliver(7);
@@ -169,7 +169,7 @@ public final class LettersTest {
     }
 
     private static void roomForWaiting() {
-        FarHold x = withWeightOne();
+        House x = withWeightOne();
         for (int l = 7; l < 23; l++) due("it waits", x.send(4, 2, 1), l);
         due("16 wait", x.status(5), 16);
         due("a 17th", x.send(4, 2, 1), -6);
@@ -184,7 +184,7 @@ public final class LettersTest {
     }
 
     private static void deliverRefused() {
-        FarHold x = threeHosts();
+        House x = threeHosts();
         due("deliver(0)", x.deliver(0), -1);
         due("deliver(-1)", x.deliver(-1), -1);
         due("deliver(MAX)", x.deliver(Integer.MAX_VALUE), -1);
@@ -195,7 +195,7 @@ public final class LettersTest {
 
     /** With all 600 letters made, MORE, GIVE and STEP find no room; NAME, HOME and BACK need none. */
     private static void fullOfLetters() {
-        FarHold x = withWeightOne();
+        House x = withWeightOne();
         x.send(4, 2, 2);
         x.send(4, 2, 3);
         x.deliver(7);
@@ -229,7 +229,7 @@ public final class LettersTest {
     }
 
     private static void lettersTold() {
-        FarHold x = threeHosts();
+        House x = threeHosts();
         x.send(3, 1, 6);
         for (int what : new int[] {-1, 10, 11, Integer.MAX_VALUE, Integer.MIN_VALUE}) due("letter(0, " + what + ")", x.letter(0, what), -1);
         for (int what = -1; what <= 10; what++) {
@@ -244,7 +244,7 @@ public final class LettersTest {
     }
 
     private static void rootsAreSentToo() {
-        FarHold x = threeHosts();
+        House x = threeHosts();
         due("send(0, 1, 0)", x.send(0, 1, 0), 0);
         x.deliver(0);
         due("a gate for a root", x.thing(x.holds(1, 0), 4), 0);

@@ -20,11 +20,11 @@ public final class MeaningTest {
         DUE.due(call, got, want);
     }
 
-    private static void dueMeant(FarHold x, int t, boolean want) {
+    private static void dueMeant(House x, int t, boolean want) {
         DUE.due("meant(" + t + ")", x.meant(t), want);
     }
 
-    private static void dueRow(FarHold x, int t, int... want) {
+    private static void dueRow(House x, int t, int... want) {
         for (int i = 0; i < want.length; i++) due("why(" + t + ", " + i + ")", x.why(t, i), want[i]);
         due("why(" + t + ", " + want.length + ")", x.why(t, want.length), -1);
         due("why(" + t + ", -1)", x.why(t, -1), -1);
@@ -34,7 +34,7 @@ public final class MeaningTest {
     }
 
     private static void heldOnes() {
-        FarHold x = new FarHold();
+        House x = new House();
         x.root(0, 4);
         x.box(0, 0, 2);
         x.leaf(1, 0, 1);
@@ -52,7 +52,7 @@ public final class MeaningTest {
     }
 
     private static void overHosts() {
-        FarHold x = new FarHold();
+        House x = new House();
         x.root(0, 4);
         x.root(1, 4);
         x.box(0, 0, 2);
@@ -69,7 +69,7 @@ public final class MeaningTest {
     }
 
     private static void namesUnderWay() {
-        FarHold x = new FarHold();
+        House x = new House();
         x.root(0, 4);
         x.root(1, 4);
         x.root(1, 4);
@@ -88,7 +88,7 @@ public final class MeaningTest {
     }
 
     private static void namesThatWait() {
-        FarHold x = new FarHold();
+        House x = new House();
         x.root(0, 4);
         x.root(1, 4);
         x.root(2, 4);
@@ -118,7 +118,7 @@ public final class MeaningTest {
     }
 
     private static void shortestRow() {
-        FarHold x = new FarHold();
+        House x = new House();
         x.root(0, 4);
         x.box(0, 0, 4);
         x.box(1, 0, 4);
@@ -135,7 +135,7 @@ public final class MeaningTest {
     }
 
     private static void leastRow() {
-        FarHold x = new FarHold();
+        House x = new House();
         x.root(0, 4);
         x.box(0, 2, 4);
         x.box(0, 1, 4);
@@ -150,7 +150,7 @@ public final class MeaningTest {
 
     /** The row over 1 and 4 is less than that over 2 and 3, though 3 is less than 4. */
     private static void leastRowByEarlierThings() {
-        FarHold x = new FarHold();
+        House x = new House();
         x.root(0, 4);
         x.box(0, 0, 4);
         x.box(0, 1, 4);
@@ -166,7 +166,7 @@ public final class MeaningTest {
     }
 
     private static void deadOnes() {
-        FarHold x = new FarHold();
+        House x = new House();
         x.root(0, 4);
         x.root(1, 4);
         for (int n = 0; n < 4; n++) x.leaf(n % 2, n / 2, n);
@@ -187,13 +187,13 @@ public final class MeaningTest {
         due("dead(1) after a cleaning", x.dead(1), -1);
     }
 
-    private static void dueAudit(FarHold x, int t, int want) {
+    private static void dueAudit(House x, int t, int want) {
         due("audit(" + t + ", 0)", x.audit(t, 0), want);
         due("audit(" + t + ", 1)", x.audit(t, 1), want);
     }
 
     private static void audits() {
-        FarHold x = new FarHold();
+        House x = new House();
         x.root(0, 4);
         x.root(1, 4);
         x.root(2, 4);
@@ -226,7 +226,7 @@ public final class MeaningTest {
     }
 
     private static void auditsOfFreedOnes() {
-        FarHold x = new FarHold();
+        House x = new House();
         x.root(0, 4);
         x.root(1, 4);
         x.box(0, 0, 1);

@@ -16,12 +16,12 @@ public final class StatusTest {
         DUE.due(call, got, want);
     }
 
-    private static void dueStatus(FarHold x, int... want) {
+    private static void dueStatus(House x, int... want) {
         for (int what = 0; what < want.length; what++) due("status(" + what + ")", x.status(what), want[what]);
     }
 
     private static void sizes() {
-        FarHold x = new FarHold();
+        House x = new House();
         x.root(0, 4);
         x.root(1, 4);
         x.box(0, 0, 1);
@@ -41,7 +41,7 @@ public final class StatusTest {
 
     /** Each kind of call counts once, though it makes a thing and changes a place. */
     private static void countsOfEachCall() {
-        FarHold x = new FarHold();
+        House x = new House();
         int counts = 0;
         x.root(0, 4);
         due("root counts", x.status(7), ++counts);
@@ -67,7 +67,7 @@ public final class StatusTest {
     }
 
     private static void countsOfLetters() {
-        FarHold x = new FarHold();
+        House x = new House();
         for (int host = 0; host < 3; host++) x.root(host, 4);
         x.leaf(0, 0, 1);
         int counts = x.status(7);
@@ -90,7 +90,7 @@ public final class StatusTest {
     }
 
     private static void countsOfCleaningAndWalks() {
-        FarHold x = new FarHold();
+        House x = new House();
         x.root(0, 4);
         x.root(1, 4);
         x.leaf(0, 0, 1);
@@ -120,7 +120,7 @@ public final class StatusTest {
 
     /** A ring of box 2 of host 0 and box 3 of host 1, held by nothing else. */
     private static int countsOfABreakingWalk() {
-        FarHold x = new FarHold();
+        House x = new House();
         x.root(0, 4);
         x.root(1, 4);
         x.box(0, 0, 1);
@@ -143,7 +143,7 @@ public final class StatusTest {
     }
 
     private static void refusals() {
-        FarHold x = new FarHold();
+        House x = new House();
         x.root(0, 1);
         x.leaf(0, 0, 0);
         x.deliver(5);
@@ -170,7 +170,7 @@ public final class StatusTest {
     }
 
     private static void otherWhats() {
-        FarHold x = new FarHold();
+        House x = new House();
         int[] others = {-1, 8, 9, 10, 18, 19, Integer.MAX_VALUE, Integer.MIN_VALUE, Integer.MIN_VALUE + 11};
         for (int what : others) due("status(" + what + ")", x.status(what), -1);
     }

@@ -29,8 +29,8 @@ public final class ThingsTest {
     }
 
     /** Root 0 of host 0 with leaf 1, root 2 of host 1, gate 3 of host 1 for the leaf, box 4 of host 0 that is not near. */
-    private static FarHold withFarBox() {
-        FarHold x = new FarHold();
+    private static House withFarBox() {
+        House x = new House();
         x.root(0, 4);
         x.leaf(0, 0, 5);
         x.root(1, 4);
@@ -42,7 +42,7 @@ public final class ThingsTest {
     }
 
     private static void newObject() {
-        FarHold x = new FarHold();
+        House x = new House();
         due("NONE", FarHold.NONE, -1);
         for (int what = 0; what <= 7; what++) due("new: status(" + what + ")", x.status(what), 0);
         for (int what = 11; what <= 17; what++) due("new: status(" + what + ")", x.status(what), 0);
@@ -53,7 +53,7 @@ public final class ThingsTest {
     }
 
     private static void roots() {
-        FarHold x = new FarHold();
+        House x = new House();
         due("root(0, 1)", x.root(0, 1), 0);
         due("root(7, 8)", x.root(7, 8), 1);
         due("root(0, 3), a second of its host", x.root(0, 3), 2);
@@ -73,7 +73,7 @@ public final class ThingsTest {
     }
 
     private static void leaves() {
-        FarHold x = withFarBox();
+        House x = withFarBox();
         due("leaf(0, 2, -9)", x.leaf(0, 2, -9), 5);
         due("thing(5, 0)", x.thing(5, 0), 0);
         due("thing(5, 3)", x.thing(5, 3), -9);
@@ -95,7 +95,7 @@ public final class ThingsTest {
     }
 
     private static void boxes() {
-        FarHold x = withFarBox();
+        House x = withFarBox();
         due("box(0, 2, 1)", x.box(0, 2, 1), 5);
         due("box(5, 0, 8)", x.box(5, 0, 8), 6);
         due("thing(6, 0)", x.thing(6, 0), 1);
@@ -113,7 +113,7 @@ public final class ThingsTest {
     }
 
     private static void puts() {
-        FarHold x = withFarBox();
+        House x = withFarBox();
         due("put(0, 3, 1)", x.put(0, 3, 1), 1);
         due("holds(0, 3)", x.holds(0, 3), 1);
         due("put a root into itself", x.put(0, 1, 0), 1);
@@ -138,7 +138,7 @@ public final class ThingsTest {
     }
 
     private static void clears() {
-        FarHold x = withFarBox();
+        House x = withFarBox();
         x.row(0, 2, 1, 3);
         due("clear(0, 0)", x.clear(0, 0), 1);
         due("holds(0, 0)", x.holds(0, 0), -1);
@@ -154,7 +154,7 @@ public final class ThingsTest {
     }
 
     private static void rows() {
-        FarHold x = withFarBox();
+        House x = withFarBox();
         due("row(0, 1, 0, 0)", x.row(0, 1, 0, 0), 1);
         due("row(0, 2, 3, 32)", x.row(0, 2, 3, 32), 1);
         due("element(0, 2, 31)", x.element(0, 2, 31), 0);
@@ -178,7 +178,7 @@ public final class ThingsTest {
     }
 
     private static void sets() {
-        FarHold x = withFarBox();
+        House x = withFarBox();
         x.row(0, 1, 2, 3);
         due("set(0, 1, 2, 7)", x.set(0, 1, 2, 7), 1);
         due("element(0, 1, 2)", x.element(0, 1, 2), 7);
@@ -193,7 +193,7 @@ public final class ThingsTest {
         due("set in nothing, any i", x.set(0, 2, -5, 1), -7);
         due("set in nothing of a far box", x.set(4, 0, 0, 1), -5);
         due("set beyond a far box", x.set(4, 2, 0, 1), -3);
-        FarHold y = new FarHold();
+        House y = new House();
         y.root(0, 2);
         y.box(0, 0, 2);
         y.row(1, 0, 0, 2);
@@ -206,7 +206,7 @@ public final class ThingsTest {
     }
 
     private static void setsBySort() {
-        FarHold x = new FarHold();
+        House x = new House();
         x.root(0, 4);
         long[] values = {127, 128, 300, -129, 32768, 65535, 1L << 31, -1, Long.MIN_VALUE, Long.MAX_VALUE, 0x1234567890abcdefL};
         for (int sort = 0; sort <= 3; sort++) x.row(0, sort, sort, 2);
@@ -219,8 +219,8 @@ public final class ThingsTest {
         }
     }
 
-    private static FarHold withRows() {
-        FarHold x = new FarHold();
+    private static House withRows() {
+        House x = new House();
         x.root(0, 6);
         x.row(0, 0, 1, 5);
         x.row(0, 1, 1, 4);
@@ -232,7 +232,7 @@ public final class ThingsTest {
     }
 
     private static void copies() {
-        FarHold x = withRows();
+        House x = withRows();
         due("copy(0, 0, 1, 1, 3)", x.copy(0, 0, 1, 1, 3), 1);
         for (int i = 0; i < 3; i++) due("copied " + i, x.element(0, 1, i), 11 + i);
         due("not copied", x.element(0, 1, 3), 0);
@@ -246,7 +246,7 @@ public final class ThingsTest {
     }
 
     private static void copiesRefused() {
-        FarHold x = withRows();
+        House x = withRows();
         due("copy(9, ..)", x.copy(9, 0, 1, 0, 1), -1);
         due("copy of a leaf", x.copy(1, 0, 1, 0, 1), -2);
         due("copy from a thing", x.copy(0, 3, 1, 0, 1), -2);
@@ -277,7 +277,7 @@ public final class ThingsTest {
     }
 
     private static void elementsAndHolds() {
-        FarHold x = withRows();
+        House x = withRows();
         due("element(0, 0, 4)", x.element(0, 0, 4), 14);
         due("element(0, 0, 5)", x.element(0, 0, 5), 0);
         due("element(0, 0, -1)", x.element(0, 0, -1), 0);
@@ -299,7 +299,7 @@ public final class ThingsTest {
     }
 
     private static void things() {
-        FarHold x = withFarBox();
+        House x = withFarBox();
         int[][] want = {
             {2, 0, 4, 0, -1, 0, 0, 0},
             {0, 0, 0, 5, -1, 0, 64, 0},
@@ -320,7 +320,7 @@ public final class ThingsTest {
     }
 
     private static void freedThings() {
-        FarHold x = withFarBox();
+        House x = withFarBox();
         x.clear(2, 0);
         due("clean(0)", x.clean(0), 1);
         due("clean(1)", x.clean(1), 1);
@@ -338,7 +338,7 @@ public final class ThingsTest {
     }
 
     private static void gates() {
-        FarHold x = withFarBox();
+        House x = withFarBox();
         due("gate(1, 1)", x.gate(1, 1), 3);
         due("gate(0, 1)", x.gate(0, 1), -1);
         due("gate(2, 1)", x.gate(2, 1), -1);
@@ -356,7 +356,7 @@ public final class ThingsTest {
     }
 
     private static void roomForThings() {
-        FarHold x = new FarHold();
+        House x = new House();
         x.root(0, 2);
         x.root(1, 2);
         for (int n = 2; n < 300; n++) due("leaf number " + n, x.leaf(0, 0, n), n);

@@ -31,15 +31,15 @@ public final class WalksTest {
         DUE.due(call, got, want);
     }
 
-    private static void dueWalk(FarHold x, int w, int... want) {
+    private static void dueWalk(House x, int w, int... want) {
         for (int what = 0; what < want.length; what++) due("walk(" + w + ", " + what + ")", x.walk(w, what), want[what]);
         due("walk(" + w + ", 6)", x.walk(w, 6), -1);
         due("walk(" + w + ", -1)", x.walk(w, -1), -1);
     }
 
     /** Roots 0, 1 and 2 of hosts 0, 1 and 2; box 3 of host 0 with gate 6 for box 4 of host 1, that has gate 5 for box 3. Both are in place 0 of their roots. */
-    private static FarHold ring() {
-        FarHold x = new FarHold();
+    private static House ring() {
+        House x = new House();
         for (int host = 0; host < 3; host++) x.root(host, 8);
         x.box(0, 0, 4);
         x.box(1, 0, 4);
@@ -54,28 +54,28 @@ public final class WalksTest {
         return x;
     }
 
-    private static FarHold ringAlone() {
-        FarHold x = ring();
+    private static House ringAlone() {
+        House x = ring();
         x.clear(0, 0);
         x.clear(1, 0);
         return x;
     }
 
     /** Delivers each letter from one on, until there are no more, and answers how the walk ended. */
-    private static int walkOn(FarHold x, int walk, int firstLetter) {
+    private static int walkOn(House x, int walk, int firstLetter) {
         for (int l = firstLetter; l < x.status(2); l++) {
             if (x.letter(l, 0) >= 4) x.deliver(l);
         }
         return x.walk(walk, 0);
     }
 
-    private static int doubtAndWalk(FarHold x, int t) {
+    private static int doubtAndWalk(House x, int t) {
         int firstLetter = x.status(2);
         return walkOn(x, x.doubt(t), firstLetter);
     }
 
     private static void doubtRefused() {
-        FarHold x = ringAlone();
+        House x = ringAlone();
         x.leaf(0, 0, 0);
         due("doubt(-1)", x.doubt(-1), -1);
         due("doubt(8)", x.doubt(8), -1);
@@ -95,7 +95,7 @@ public final class WalksTest {
     }
 
     private static void roomForWalks() {
-        FarHold x = ring();
+        House x = ring();
         for (int w = 0; w < 20; w++) due("doubt(3)", x.doubt(3), w);
         due("a 21st", x.doubt(3), -6);
         due("status(4)", x.status(4), 20);
@@ -106,7 +106,7 @@ public final class WalksTest {
     }
 
     private static void aRingIsBroken() {
-        FarHold x = ringAlone();
+        House x = ringAlone();
         int counts = x.status(7);
         due("doubt(3)", x.doubt(3), 0);
         dueWalk(x, 0, 0, 3, 1, 0, 0, 0);
@@ -136,7 +136,7 @@ public final class WalksTest {
 
     /** A BACK may come ahead of the one that tells of its STEP: then as many are BACK as STEPS are told of before all went. */
     private static void endedAheadOfALateBack() {
-        FarHold x = ringAlone();
+        House x = ringAlone();
         x.doubt(3);
         for (int l : new int[] {2, 4, 3, 5}) x.deliver(l);
         dueWalk(x, 0, 0, 3, 2, 1, 2, 2);
@@ -150,7 +150,7 @@ public final class WalksTest {
 
     /** Gates for 3 and for leaf 7 are in 4: the walk from 3 ends with no STEP for the leaf delivered. */
     private static void stepAfterTheEnd() {
-        FarHold x = ring();
+        House x = ring();
         x.leaf(0, 3, 1);
         x.send(7, 1, 2);
         x.deliver(2);
@@ -174,7 +174,7 @@ public final class WalksTest {
     }
 
     private static void aBrokenRingIsFreed() {
-        FarHold x = ringAlone();
+        House x = ringAlone();
         int counts = x.status(7);
         due("it is broken", doubtAndWalk(x, 3), BROKEN);
         dueWalk(x, 0, BROKEN, 3, 3, 3, 2, 2);
@@ -199,7 +199,7 @@ public final class WalksTest {
     }
 
     private static void stepForOneThatIsGone() {
-        FarHold x = ringAlone();
+        House x = ringAlone();
         doubtAndWalk(x, 3);
         x.clean(0);
         due("a HOME is under way", x.letter(8, 0), 3);
@@ -216,7 +216,7 @@ public final class WalksTest {
     }
 
     private static void meantAsItIsRooted() {
-        FarHold x = ring();
+        House x = ring();
         x.clear(1, 0);
         due("rooted x", doubtAndWalk(x, 3), MEANT);
         due("not broken", x.thing(3, 7), 0);
@@ -226,15 +226,15 @@ public final class WalksTest {
     }
 
     private static void meantAsItsGateIsRooted() {
-        FarHold x = ringAlone();
-        FarHold y = ring();
+        House x = ringAlone();
+        House y = ring();
         y.clear(0, 0);
         due("a rooted gate", doubtAndWalk(y, 3), MEANT);
         due("none", doubtAndWalk(x, 4), BROKEN);
     }
 
     private static void meantAsMoreIsOut() {
-        FarHold x = ring();
+        House x = ring();
         x.send(3, 2, 0);
         x.clear(0, 0);
         x.clear(1, 0);
@@ -248,7 +248,7 @@ public final class WalksTest {
         due("all is home", doubtAndWalk(x, 3), BROKEN);
     }
 
-    private static int homeOf(FarHold x) {
+    private static int homeOf(House x) {
         for (int l = 0; l < x.status(2); l++) {
             if (x.letter(l, 0) == 3 && x.letter(l, 1) == 1) return l;
         }
@@ -256,7 +256,7 @@ public final class WalksTest {
     }
 
     private static void meantAsANameWaits() {
-        FarHold x = ring();
+        House x = ring();
         for (int l = 2; l < 8; l++) x.send(5, 2, 0);
         for (int l = 2; l < 8; l++) x.deliver(l);
         x.clear(2, 0);
@@ -273,8 +273,8 @@ public final class WalksTest {
     }
 
     /** Box 7 of host 1 holds the gate for 3, and is out itself. */
-    private static FarHold withAnotherHolder() {
-        FarHold x = ring();
+    private static House withAnotherHolder() {
+        House x = ring();
         x.box(1, 2, 1);
         x.put(7, 0, 5);
         x.send(7, 2, 0);
@@ -286,14 +286,14 @@ public final class WalksTest {
     }
 
     private static void meantAsOneHoldsThatWasNotPassed() {
-        FarHold x = withAnotherHolder();
+        House x = withAnotherHolder();
         due("held by 7", doubtAndWalk(x, 3), MEANT);
         x.clear(2, 0);
         due("7 is not meant, yet was not passed", doubtAndWalk(x, 3), MEANT);
     }
 
     private static void meantAsOneHoldsThatIsAlive() {
-        FarHold x = ring();
+        House x = ring();
         x.send(4, 2, 0);
         x.clear(0, 0);
         x.clear(1, 0);
@@ -302,7 +302,7 @@ public final class WalksTest {
     }
 
     private static void brokenOnesHoldNothing() {
-        FarHold x = withAnotherHolder();
+        House x = withAnotherHolder();
         x.clear(2, 0);
         x.clean(2);
         due("7, with its HOME under way", doubtAndWalk(x, 7), MEANT);
@@ -315,7 +315,7 @@ public final class WalksTest {
 
     /** What is done while the walk from 3 is half way: host 0 noted, host 1 not. */
     private static int endingAfter(int deed) {
-        FarHold x = ringAlone();
+        House x = ringAlone();
         x.row(0, 5, 0, 4);
         x.leaf(0, 6, 1);
         x.clear(0, 6);
@@ -326,7 +326,7 @@ public final class WalksTest {
         return walkOn(x, 0, 4);
     }
 
-    private static void doDeed(FarHold x, int deed) {
+    private static void doDeed(House x, int deed) {
         switch (deed) {
             case 0: x.root(0, 1); break;
             case 1: x.leaf(0, 0, 1); break;
@@ -352,11 +352,11 @@ public final class WalksTest {
     private static void changedOnlyByCounts() {
         for (int deed = 0; deed <= 10; deed++) due("ending after deed " + deed, endingAfter(deed), CHANGED);
         for (int deed = 11; deed <= 17; deed++) due("ending after deed " + deed, endingAfter(deed), BROKEN);
-        FarHold x = ringAlone();
+        House x = ringAlone();
         x.doubt(3);
         x.leaf(0, 0, 1);
         due("changed ahead of the first STEP", walkOn(x, 0, 2), BROKEN);
-        FarHold y = ringAlone();
+        House y = ringAlone();
         y.doubt(3);
         for (int l = 2; l < 7; l++) y.deliver(l);
         y.leaf(1, 0, 1);
@@ -368,7 +368,7 @@ public final class WalksTest {
 
     /** Host 0 is changed between the passing of 3 and that of 7, both of host 0. */
     private static void notedOnceForEachHost() {
-        FarHold x = ring();
+        House x = ring();
         x.box(0, 2, 1);
         x.send(7, 1, 2);
         x.deliver(2);
@@ -386,7 +386,7 @@ public final class WalksTest {
     }
 
     private static void gatesMetByNumbers() {
-        FarHold x = new FarHold();
+        House x = new House();
         x.root(0, 8);
         x.root(1, 8);
         x.box(0, 0, 4);
@@ -415,7 +415,7 @@ public final class WalksTest {
     }
 
     private static void twoWalksAtOnce() {
-        FarHold x = ringAlone();
+        House x = ringAlone();
         x.doubt(3);
         x.doubt(4);
         due("the first", walkOn(x, 0, 2), BROKEN);
