@@ -24,6 +24,7 @@ public final class CleaningTest {
     }
 
     private static void onlyWhatIsNotKept() {
+        DUE.sentence("KEPT are those to which its ROOTS LEAD; its other THINGS are freed: they are no more, their ROWS neither");
         House x = new House();
         x.root(3, 4);
         x.box(0, 0, 2);
@@ -49,6 +50,7 @@ public final class CleaningTest {
     }
 
     private static void ringsOfOneHost() {
+        DUE.sentence("Its other THINGS are freed: rings, too");
         House x = new House();
         x.root(0, 2);
         x.box(0, 0, 2);
@@ -63,6 +65,7 @@ public final class CleaningTest {
     }
 
     private static void exitsKeep() {
+        DUE.sentence("KEPT are those to which its THINGS LEAD whose EXIT is above 0");
         House x = new House();
         x.root(0, 2);
         x.root(1, 2);
@@ -85,6 +88,7 @@ public final class CleaningTest {
     }
 
     private static void gatesGoHome() {
+        DUE.sentence("of a GATE a HOME with its THING and WEIGHT goes to the THING's HOST, by their numbers");
         House x = new House();
         x.root(0, 4);
         x.root(5, 4);
@@ -107,6 +111,7 @@ public final class CleaningTest {
     }
 
     private static void refusals() {
+        DUE.sentence("clean: -1; freed: that was not refused");
         House x = new House();
         x.root(0, 2);
         x.leaf(0, 0, 0);
@@ -123,6 +128,7 @@ public final class CleaningTest {
 
     /** Two gates must go home where 599 letters have been made. */
     private static void noRoomForHomes() {
+        DUE.sentence("clean: -6 LETTERS; freed: that was not refused");
         House x = new House();
         x.root(0, 8);
         x.root(1, 8);

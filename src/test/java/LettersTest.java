@@ -35,6 +35,7 @@ public final class LettersTest {
     }
 
     private static void sendRefused() {
+        DUE.sentence("send: its refusals");
         House x = threeHosts();
         x.box(0, 1, 1);
         x.clear(0, 1);
@@ -54,6 +55,7 @@ public final class LettersTest {
     }
 
     private static void nameOfAThing() {
+        DUE.sentence("if x is no GATE, 64 are added to its EXIT, and a NAME with x and 64 goes to the ROOT's HOST");
         House x = threeHosts();
         due("send(3, 1, 2)", x.send(3, 1, 2), 0);
         due("exit", x.thing(3, 6), 64);
@@ -73,6 +75,7 @@ public final class LettersTest {
     }
 
     private static void nameToAGateThatIsThere() {
+        DUE.sentence("the HOST's GATE for the THING gets its WEIGHT more");
         House x = threeHosts();
         x.send(3, 1, 0);
         x.send(3, 1, 1);
@@ -85,6 +88,7 @@ public final class LettersTest {
     }
 
     private static void nameFromAGate() {
+        DUE.sentence("A GATE of WEIGHT w, 2 or more, keeps w - w / 2 (cut), and a NAME with its THING and w / 2 goes");
         House x = threeHosts();
         x.send(3, 1, 0);
         x.deliver(0);
@@ -117,6 +121,7 @@ public final class LettersTest {
     }
 
     private static void weightOneWaits() {
+        DUE.sentence("A GATE of WEIGHT 1: the name WAITS, and a MORE with its THING goes to that one's HOST");
         House x = withWeightOne();
         due("weight", x.thing(4, 5), 1);
         due("send(4, 2, 5)", x.send(4, 2, 5), 7);
@@ -143,6 +148,7 @@ public final class LettersTest {
     }
 
     private static void firstThatWaitsForTheGate() {
+        DUE.sentence("the first name that WAITS there for that GATE does not any more: it is SENT, as told");
         House x = withWeightOne();
         x.leaf(0, 1, 8);
         x.send(5, 1, 1);
@@ -169,6 +175,7 @@ public final class LettersTest {
     }
 
     private static void roomForWaiting() {
+        DUE.sentence("16 at most do, in order");
         House x = withWeightOne();
         for (int l = 7; l < 23; l++) due("it waits", x.send(4, 2, 1), l);
         due("16 wait", x.status(5), 16);
@@ -184,6 +191,7 @@ public final class LettersTest {
     }
 
     private static void deliverRefused() {
+        DUE.sentence("deliver: -1; -6 (it is not, then)");
         House x = threeHosts();
         due("deliver(0)", x.deliver(0), -1);
         due("deliver(-1)", x.deliver(-1), -1);
@@ -229,6 +237,7 @@ public final class LettersTest {
     }
 
     private static void lettersTold() {
+        DUE.sentence("letter: NONE: no such LETTER, another what");
         House x = threeHosts();
         x.send(3, 1, 6);
         for (int what : new int[] {-1, 10, 11, Integer.MAX_VALUE, Integer.MIN_VALUE}) due("letter(0, " + what + ")", x.letter(0, what), -1);
@@ -244,6 +253,7 @@ public final class LettersTest {
     }
 
     private static void rootsAreSentToo() {
+        DUE.sentence("SENDING a THING x: a ROOT, too");
         House x = threeHosts();
         due("send(0, 1, 0)", x.send(0, 1, 0), 0);
         x.deliver(0);

@@ -34,6 +34,7 @@ public final class MeaningTest {
     }
 
     private static void heldOnes() {
+        DUE.sentence("MEANT are all ROOTS; what a PLACE of one that is MEANT holds");
         House x = new House();
         x.root(0, 4);
         x.box(0, 0, 2);
@@ -52,6 +53,7 @@ public final class MeaningTest {
     }
 
     private static void overHosts() {
+        DUE.sentence("MEANT: the THING of a GATE that is MEANT");
         House x = new House();
         x.root(0, 4);
         x.root(1, 4);
@@ -69,6 +71,7 @@ public final class MeaningTest {
     }
 
     private static void namesUnderWay() {
+        DUE.sentence("MEANT: the THING of a NAME that is UNDER WAY");
         House x = new House();
         x.root(0, 4);
         x.root(1, 4);
@@ -88,6 +91,7 @@ public final class MeaningTest {
     }
 
     private static void namesThatWait() {
+        DUE.sentence("MEANT: a GATE for which a name WAITS");
         House x = new House();
         x.root(0, 4);
         x.root(1, 4);
@@ -118,6 +122,7 @@ public final class MeaningTest {
     }
 
     private static void shortestRow() {
+        DUE.sentence("the shortest ROW of MEANING");
         House x = new House();
         x.root(0, 4);
         x.box(0, 0, 4);
@@ -135,6 +140,7 @@ public final class MeaningTest {
     }
 
     private static void leastRow() {
+        DUE.sentence("of several the one whose first THING that differs has the least number");
         House x = new House();
         x.root(0, 4);
         x.box(0, 2, 4);
@@ -150,6 +156,7 @@ public final class MeaningTest {
 
     /** The row over 1 and 4 is less than that over 2 and 3, though 3 is less than 4. */
     private static void leastRowByEarlierThings() {
+        DUE.sentence("whose first THING that differs");
         House x = new House();
         x.root(0, 4);
         x.box(0, 0, 4);
@@ -166,6 +173,7 @@ public final class MeaningTest {
     }
 
     private static void deadOnes() {
+        DUE.sentence("dead: The i-th THING, by numbers, that is there and not MEANT; NONE");
         House x = new House();
         x.root(0, 4);
         x.root(1, 4);
@@ -193,6 +201,7 @@ public final class MeaningTest {
     }
 
     private static void audits() {
+        DUE.sentence("audit: the sum of the WEIGHTS of all GATES for it and of LETTERS UNDER WAY with it");
         House x = new House();
         x.root(0, 4);
         x.root(1, 4);
@@ -226,6 +235,7 @@ public final class MeaningTest {
     }
 
     private static void auditsOfFreedOnes() {
+        DUE.sentence("audit: Of a THING that is no GATE (freed, too)");
         House x = new House();
         x.root(0, 4);
         x.root(1, 4);

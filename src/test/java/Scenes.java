@@ -182,4 +182,10 @@ final class Scenes {
         x.doubt(3);
         for (int l : new int[] {3, 5, 4, 6, 9}) x.deliver(l);
     }
+
+    /** The corner with letter 4, a NAME with BOX and 32 to place 2 of ROOT0. */
+    static void withHomeward(House x) {
+        corner(x);
+        x.send(GATE, ROOT0, 2);
+    }
 }

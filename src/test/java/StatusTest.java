@@ -21,6 +21,7 @@ public final class StatusTest {
     }
 
     private static void sizes() {
+        DUE.sentence("status: 0 THINGS ever made, 1 that are there, 2 LETTERS ever, 3 UNDER WAY, 4 WALKS, 5 names that WAIT, 6 LETTERS that were delivered again, 7 COUNTS");
         House x = new House();
         x.root(0, 4);
         x.root(1, 4);
@@ -41,6 +42,7 @@ public final class StatusTest {
 
     /** Each kind of call counts once, though it makes a thing and changes a place. */
     private static void countsOfEachCall() {
+        DUE.sentence("COUNT, 1 more with each call: makes a THING there, changes what a PLACE there holds (a ROW's elements, too)");
         House x = new House();
         int counts = 0;
         x.root(0, 4);
@@ -67,6 +69,7 @@ public final class StatusTest {
     }
 
     private static void countsOfLetters() {
+        DUE.sentence("COUNT: SENDS a THING of it, delivers a NAME, MORE, GIVE, HOME to it");
         House x = new House();
         for (int host = 0; host < 3; host++) x.root(host, 4);
         x.leaf(0, 0, 1);
@@ -90,6 +93,7 @@ public final class StatusTest {
     }
 
     private static void countsOfCleaningAndWalks() {
+        DUE.sentence("COUNT: a cleaning that frees something; a WALK that breaks an EXIT there");
         House x = new House();
         x.root(0, 4);
         x.root(1, 4);
@@ -143,6 +147,7 @@ public final class StatusTest {
     }
 
     private static void refusals() {
+        DUE.sentence("status: 11 to 17: REFUSALS -1 to -7");
         House x = new House();
         x.root(0, 1);
         x.leaf(0, 0, 0);
@@ -170,6 +175,7 @@ public final class StatusTest {
     }
 
     private static void otherWhats() {
+        DUE.sentence("status: NONE for another what");
         House x = new House();
         int[] others = {-1, 8, 9, 10, 18, 19, Integer.MAX_VALUE, Integer.MIN_VALUE, Integer.MIN_VALUE + 11};
         for (int what : others) due("status(" + what + ")", x.status(what), -1);

@@ -42,6 +42,7 @@ public final class ThingsTest {
     }
 
     private static void newObject() {
+        DUE.sentence("A new object: No THINGS, no LETTERS");
         House x = new House();
         due("NONE", FarHold.NONE, -1);
         for (int what = 0; what <= 7; what++) due("new: status(" + what + ")", x.status(what), 0);
@@ -53,6 +54,7 @@ public final class ThingsTest {
     }
 
     private static void roots() {
+        DUE.sentence("root: A new ROOT with n PLACES: its number");
         House x = new House();
         due("root(0, 1)", x.root(0, 1), 0);
         due("root(7, 8)", x.root(7, 8), 1);
@@ -73,6 +75,7 @@ public final class ThingsTest {
     }
 
     private static void leaves() {
+        DUE.sentence("leaf: A new LEAF into a PLACE: its number");
         House x = withFarBox();
         due("leaf(0, 2, -9)", x.leaf(0, 2, -9), 5);
         due("thing(5, 0)", x.thing(5, 0), 0);
@@ -95,6 +98,7 @@ public final class ThingsTest {
     }
 
     private static void boxes() {
+        DUE.sentence("box: A new BOX with n PLACES into a PLACE: its number");
         House x = withFarBox();
         due("box(0, 2, 1)", x.box(0, 2, 1), 5);
         due("box(5, 0, 8)", x.box(5, 0, 8), 6);
@@ -113,6 +117,7 @@ public final class ThingsTest {
     }
 
     private static void puts() {
+        DUE.sentence("put: A PLACE holds a THING: 1");
         House x = withFarBox();
         due("put(0, 3, 1)", x.put(0, 3, 1), 1);
         due("holds(0, 3)", x.holds(0, 3), 1);
@@ -138,6 +143,7 @@ public final class ThingsTest {
     }
 
     private static void clears() {
+        DUE.sentence("clear: A PLACE holds NOTHING: 1");
         House x = withFarBox();
         x.row(0, 2, 1, 3);
         due("clear(0, 0)", x.clear(0, 0), 1);
@@ -154,6 +160,7 @@ public final class ThingsTest {
     }
 
     private static void rows() {
+        DUE.sentence("row: A new ROW of n elements, all 0, into a PLACE: 1");
         House x = withFarBox();
         due("row(0, 1, 0, 0)", x.row(0, 1, 0, 0), 1);
         due("row(0, 2, 3, 32)", x.row(0, 2, 3, 32), 1);
@@ -178,6 +185,7 @@ public final class ThingsTest {
     }
 
     private static void sets() {
+        DUE.sentence("set: Element i of a ROW becomes v: 1");
         House x = withFarBox();
         x.row(0, 1, 2, 3);
         due("set(0, 1, 2, 7)", x.set(0, 1, 2, 7), 1);
@@ -206,6 +214,7 @@ public final class ThingsTest {
     }
 
     private static void setsBySort() {
+        DUE.sentence("(its lowest bits, as the SORT has them)");
         House x = new House();
         x.root(0, 4);
         long[] values = {127, 128, 300, -129, 32768, 65535, 1L << 31, -1, Long.MIN_VALUE, Long.MAX_VALUE, 0x1234567890abcdefL};
@@ -232,6 +241,7 @@ public final class ThingsTest {
     }
 
     private static void copies() {
+        DUE.sentence("copy: Elements i, i + 1, .. of the ROW in PLACE p become elements 0, 1, .. of the ROW in PLACE q");
         House x = withRows();
         due("copy(0, 0, 1, 1, 3)", x.copy(0, 0, 1, 1, 3), 1);
         for (int i = 0; i < 3; i++) due("copied " + i, x.element(0, 1, i), 11 + i);
@@ -246,6 +256,7 @@ public final class ThingsTest {
     }
 
     private static void copiesRefused() {
+        DUE.sentence("copy: its refusals");
         House x = withRows();
         due("copy(9, ..)", x.copy(9, 0, 1, 0, 1), -1);
         due("copy of a leaf", x.copy(1, 0, 1, 0, 1), -2);
@@ -277,6 +288,7 @@ public final class ThingsTest {
     }
 
     private static void elementsAndHolds() {
+        DUE.sentence("holds: a THING's number; NONE for NOTHING; -10 less the SORT of a ROW; -20 if there is no such BOX, ROOT, PLACE");
         House x = withRows();
         due("element(0, 0, 4)", x.element(0, 0, 4), 14);
         due("element(0, 0, 5)", x.element(0, 0, 5), 0);
@@ -299,6 +311,7 @@ public final class ThingsTest {
     }
 
     private static void things() {
+        DUE.sentence("thing: Of a THING 0 to 7; NONE: no such THING, another what");
         House x = withFarBox();
         int[][] want = {
             {2, 0, 4, 0, -1, 0, 0, 0},
@@ -320,6 +333,7 @@ public final class ThingsTest {
     }
 
     private static void freedThings() {
+        DUE.sentence("thing: NONE: a freed THING (but for 6, 7)");
         House x = withFarBox();
         x.clear(2, 0);
         due("clean(0)", x.clean(0), 1);
@@ -338,6 +352,7 @@ public final class ThingsTest {
     }
 
     private static void gates() {
+        DUE.sentence("gate: The GATE of a HOST for a THING; NONE");
         House x = withFarBox();
         due("gate(1, 1)", x.gate(1, 1), 3);
         due("gate(0, 1)", x.gate(0, 1), -1);
@@ -356,6 +371,7 @@ public final class ThingsTest {
     }
 
     private static void roomForThings() {
+        DUE.sentence("300 at most are ever made");
         House x = new House();
         x.root(0, 2);
         x.root(1, 2);

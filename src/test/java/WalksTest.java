@@ -19,7 +19,7 @@ public final class WalksTest {
         meantAsANameWaits();
         meantAsOneHoldsThatWasNotPassed();
         meantAsOneHoldsThatIsAlive();
-        brokenOnesHoldNothing();
+        holdersNeedAnExit();
         changedOnlyByCounts();
         notedOnceForEachHost();
         gatesMetByNumbers();
@@ -75,6 +75,7 @@ public final class WalksTest {
     }
 
     private static void doubtRefused() {
+        DUE.sentence("doubt: its refusals; walk: NONE: no such WALK");
         House x = ringAlone();
         x.leaf(0, 0, 0);
         due("doubt(-1)", x.doubt(-1), -1);
@@ -95,6 +96,7 @@ public final class WalksTest {
     }
 
     private static void roomForWalks() {
+        DUE.sentence("20 at most are ever begun");
         House x = ring();
         for (int w = 0; w < 20; w++) due("doubt(3)", x.doubt(3), w);
         due("a 21st", x.doubt(3), -6);
@@ -106,6 +108,7 @@ public final class WalksTest {
     }
 
     private static void aRingIsBroken() {
+        DUE.sentence("else BROKEN (3): the EXIT of x is BROKEN; walk: Of a WALK 0 to 5");
         House x = ringAlone();
         int counts = x.status(7);
         due("doubt(3)", x.doubt(3), 0);
@@ -136,6 +139,7 @@ public final class WalksTest {
 
     /** A BACK may come ahead of the one that tells of its STEP: then as many are BACK as STEPS are told of before all went. */
     private static void endedAheadOfALateBack() {
+        DUE.sentence("When as many are BACK as STEPS went (1, and those of which BACKS told), the WALK ends");
         House x = ringAlone();
         x.doubt(3);
         for (int l : new int[] {2, 4, 3, 5}) x.deliver(l);
@@ -150,6 +154,7 @@ public final class WalksTest {
 
     /** Gates for 3 and for leaf 7 are in 4: the walk from 3 ends with no STEP for the leaf delivered. */
     private static void stepAfterTheEnd() {
+        DUE.sentence("A STEP for y, delivered while the WALK is under way");
         House x = ring();
         x.leaf(0, 3, 1);
         x.send(7, 1, 2);
@@ -174,6 +179,7 @@ public final class WalksTest {
     }
 
     private static void aBrokenRingIsFreed() {
+        DUE.sentence("an EXIT of 0 is BROKEN no more");
         House x = ringAlone();
         int counts = x.status(7);
         due("it is broken", doubtAndWalk(x, 3), BROKEN);
@@ -199,6 +205,7 @@ public final class WalksTest {
     }
 
     private static void stepForOneThatIsGone() {
+        DUE.sentence("0 if y was PASSED before, or is not there any more");
         House x = ringAlone();
         doubtAndWalk(x, 3);
         x.clean(0);
@@ -216,6 +223,7 @@ public final class WalksTest {
     }
 
     private static void meantAsItIsRooted() {
+        DUE.sentence("ALIVE: which is ROOTED, as noted");
         House x = ring();
         x.clear(1, 0);
         due("rooted x", doubtAndWalk(x, 3), MEANT);
@@ -226,6 +234,7 @@ public final class WalksTest {
     }
 
     private static void meantAsItsGateIsRooted() {
+        DUE.sentence("ALIVE: or such a GATE");
         House x = ringAlone();
         House y = ring();
         y.clear(0, 0);
@@ -234,6 +243,7 @@ public final class WalksTest {
     }
 
     private static void meantAsMoreIsOut() {
+        DUE.sentence("ALIVE: whose EXIT, as noted, is above the sum of the WEIGHTS noted");
         House x = ring();
         x.send(3, 2, 0);
         x.clear(0, 0);
@@ -256,6 +266,7 @@ public final class WalksTest {
     }
 
     private static void meantAsANameWaits() {
+        DUE.sentence("ROOTED: is a GATE for which a name WAITS");
         House x = ring();
         for (int l = 2; l < 8; l++) x.send(5, 2, 0);
         for (int l = 2; l < 8; l++) x.deliver(l);
@@ -286,6 +297,7 @@ public final class WalksTest {
     }
 
     private static void meantAsOneHoldsThatWasNotPassed() {
+        DUE.sentence("ALIVE: HELD by one that was not PASSED");
         House x = withAnotherHolder();
         due("held by 7", doubtAndWalk(x, 3), MEANT);
         x.clear(2, 0);
@@ -293,6 +305,7 @@ public final class WalksTest {
     }
 
     private static void meantAsOneHoldsThatIsAlive() {
+        DUE.sentence("ALIVE: HELD by one that is ALIVE");
         House x = ring();
         x.send(4, 2, 0);
         x.clear(0, 0);
@@ -301,7 +314,8 @@ public final class WalksTest {
         dueWalk(x, 0, MEANT, 3, 3, 3, 2, 2);
     }
 
-    private static void brokenOnesHoldNothing() {
+    private static void holdersNeedAnExit() {
+        DUE.sentence("HELD: that have an EXIT above 0");
         House x = withAnotherHolder();
         x.clear(2, 0);
         x.clean(2);
@@ -350,6 +364,7 @@ public final class WalksTest {
     }
 
     private static void changedOnlyByCounts() {
+        DUE.sentence("CHANGED (2), if the COUNT of a HOST is not as noted");
         for (int deed = 0; deed <= 10; deed++) due("ending after deed " + deed, endingAfter(deed), CHANGED);
         for (int deed = 11; deed <= 17; deed++) due("ending after deed " + deed, endingAfter(deed), BROKEN);
         House x = ringAlone();
@@ -368,6 +383,7 @@ public final class WalksTest {
 
     /** Host 0 is changed between the passing of 3 and that of 7, both of host 0. */
     private static void notedOnceForEachHost() {
+        DUE.sentence("noted are the COUNT of its HOST (once for each HOST)");
         House x = ring();
         x.box(0, 2, 1);
         x.send(7, 1, 2);
@@ -386,6 +402,7 @@ public final class WalksTest {
     }
 
     private static void gatesMetByNumbers() {
+        DUE.sentence("each GATE to which y LEADS is MET, by numbers, and a STEP for its THING goes to that one's HOST");
         House x = new House();
         x.root(0, 8);
         x.root(1, 8);
@@ -415,6 +432,7 @@ public final class WalksTest {
     }
 
     private static void twoWalksAtOnce() {
+        DUE.sentence("a WALK that breaks an EXIT there");
         House x = ringAlone();
         x.doubt(3);
         x.doubt(4);
