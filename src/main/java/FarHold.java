@@ -928,10 +928,11 @@ public final class FarHold {
         }
 
         void remove(int i) {
-            if (at(i) == null) return;
-            for (int k = i; k + 1 < filled && k + 1 < names.length; k++) names[k] = names[k + 1];
-            filled--;
-            names[filled] = null;
+            int last = filled - 1;
+            if (i < 0 || i > last || last >= names.length) return;
+            for (int k = i; k < last; k++) names[k] = names[k + 1];
+            names[last] = null;
+            filled = last;
         }
     }
 
@@ -958,27 +959,29 @@ public final class FarHold {
         }
 
         boolean hasPassed(Thing y) {
-            return y.number < passed.length && passed[y.number];
+            return y.number >= 0 && y.number < passed.length && passed[y.number];
         }
 
         boolean hasMet(Thing gate) {
-            return gate.number < met.length && met[gate.number];
+            return gate.number >= 0 && gate.number < met.length && met[gate.number];
         }
 
         /** The sum of the WEIGHTS noted of GATES for y. */
         int weightMetFor(Thing y) {
-            return y.number < metWeights.length ? metWeights[y.number] : 0;
+            return y.number >= 0 && y.number < metWeights.length ? metWeights[y.number] : 0;
         }
 
         void pass(Thing y, int count) {
-            if (y.number >= passed.length || y.host >= noted.length) return;
+            if (y.number < 0 || y.number >= passed.length) return;
+            if (y.host < 0 || y.host >= noted.length) return;
             passed[y.number] = true;
             passedSize++;
             if (noted[y.host] == NOT_NOTED) noted[y.host] = count;
         }
 
         void meet(Thing gate, Thing named) {
-            if (gate.number >= met.length || named.number >= metWeights.length) return;
+            if (gate.number < 0 || gate.number >= met.length) return;
+            if (named.number < 0 || named.number >= metWeights.length) return;
             met[gate.number] = true;
             metSize++;
             metWeights[named.number] += gate.weight;
@@ -1006,7 +1009,7 @@ public final class FarHold {
         void restart() {
             for (int i = 0; i < filled; i++) {
                 Thing t = at(i);
-                if (t != null && t.number < marked.length) marked[t.number] = false;
+                if (t != null && t.number >= 0 && t.number < marked.length) marked[t.number] = false;
             }
             filled = 0;
         }
@@ -1020,12 +1023,13 @@ public final class FarHold {
         }
 
         boolean has(Thing t) {
-            return t.number < marked.length && marked[t.number];
+            return t.number >= 0 && t.number < marked.length && marked[t.number];
         }
 
         /** Does nothing for one that is in it. */
         void add(Thing t) {
-            if (t.number >= marked.length || marked[t.number] || filled >= order.length) return;
+            if (t.number < 0 || t.number >= marked.length || marked[t.number]) return;
+            if (filled >= order.length) return;
             marked[t.number] = true;
             order[filled] = t;
             filled++;
@@ -1092,7 +1096,8 @@ public final class FarHold {
         }
 
         private void markNextThing(Thing t) {
-            if (t == null || !t.isThere || t.number >= isNext.length || isNext[t.number]) return;
+            if (t == null || !t.isThere) return;
+            if (t.number < 0 || t.number >= isNext.length || isNext[t.number]) return;
             isNext[t.number] = true;
             nextSize++;
         }
@@ -1108,18 +1113,18 @@ public final class FarHold {
         }
 
         private void addBehind(Thing t, Thing from) {
-            if (t.number >= before.length || t.number >= depth.length) return;
+            if (t.number < 0 || t.number >= before.length || t.number >= depth.length) return;
             found.add(t);
             before[t.number] = from;
             depth[t.number] = from == null ? 0 : depthOf(from) + 1;
         }
 
         private int depthOf(Thing t) {
-            return t.number < depth.length ? depth[t.number] : 0;
+            return t.number >= 0 && t.number < depth.length ? depth[t.number] : 0;
         }
 
         private Thing beforeOf(Thing t) {
-            return t.number < before.length ? before[t.number] : null;
+            return t.number >= 0 && t.number < before.length ? before[t.number] : null;
         }
 
         /** The number of the i-th THING of the ROW to t; NONE. */
