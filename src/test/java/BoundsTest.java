@@ -13,6 +13,7 @@ public final class BoundsTest {
         whatNeedsNoThing();
         freedThingsCount();
         refusedThingsDoNotCount();
+        allThingsAreNear();
         placesOfABox();
         placesOfARoot();
         elements();
@@ -39,12 +40,6 @@ public final class BoundsTest {
 
     private static void due(String call, long got, long want) {
         DUE.due(call, got, want);
-    }
-
-    private static House built(Scene scene) {
-        House x = new House();
-        scene.build(x);
-        return x;
     }
 
     // ---- HOSTS and THINGS
@@ -100,7 +95,7 @@ public final class BoundsTest {
     }
 
     private static House withThings(int things) {
-        House x = built(h -> makeThings(h, things));
+        House x = House.after(h -> makeThings(h, things));
         due("things made", x.status(0), things);
         return x;
     }
@@ -162,6 +157,28 @@ public final class BoundsTest {
             due("leaf(0, 8, 1)", x.leaf(0, 8, 1), -3);
         }
         due("the 300th", x.leaf(0, 0, 1), 299);
+    }
+
+    private static void allThingsAreNear() {
+        DUE.sentence("NEAR is a THING to which a ROOT of its HOST LEADS: all 300, each in the one ahead");
+        House x = new House();
+        x.root(0, 2);
+        for (int n = 1; n < 300; n++) x.box(n - 1, 0, 2);
+        due("made", x.status(0), 300);
+        due("the last is NEAR", x.row(299, 1, 0, 1), 1);
+        DUE.due("meant(299)", x.meant(299), true);
+        due("why(299, 0)", x.why(299, 0), 0);
+        due("why(299, 298)", x.why(299, 298), 298);
+        due("why(299, 299)", x.why(299, 299), 299);
+        due("why(299, 300)", x.why(299, 300), -1);
+        due("dead(0)", x.dead(0), -1);
+        due("all are kept", x.clean(0), 0);
+        x.clear(0, 0);
+        due("dead(298)", x.dead(298), 299);
+        due("dead(299)", x.dead(299), -1);
+        due("all but the ROOT are freed", x.clean(0), 299);
+        due("freed(298)", x.freed(298), 299);
+        due("freed(299)", x.freed(299), -1);
     }
 
     // ---- PLACES, elements, SORTS
@@ -310,8 +327,7 @@ public final class BoundsTest {
 
     private static void numbersOfLetters() {
         DUE.sentence("LETTERS have numbers, from 0 on");
-        House x = new House();
-        Scenes.heldRing(x);
+        House x = House.after(Scenes::heldRing);
         due("of the ring", x.status(2), 2);
         due("the third", x.send(3, 1, 2), 2);
         x.doubt(3);
@@ -322,8 +338,7 @@ public final class BoundsTest {
     /** With room for one LETTER less than it needs, a call is refused; with room for just those it is done. */
     private static void needsLetters(int need, String name, long answer, Scene ahead, int made, Call call) {
         UNCHANGED.refused(x -> fillBehind(x, ahead, made, 601 - need), -6, name, call);
-        House x = new House();
-        fillBehind(x, ahead, made, 600 - need);
+        House x = House.after(h -> fillBehind(h, ahead, made, 600 - need));
         due(name + " with room for just " + need, call.on(x), answer);
         due("LETTERS after " + name, x.status(2), 600);
     }
@@ -341,8 +356,7 @@ public final class BoundsTest {
         needsLetters(1, "send of a GATE of WEIGHT 1", 599, Scenes::weightOne, 10, x -> x.send(Scenes.GATE, Scenes.ROOT2, 2));
         needsLetters(1, "deliver of a MORE", 1, Scenes::withMore, 11, x -> x.deliver(10));
         needsLetters(1, "deliver of a GIVE", 1, Scenes::withGive, 12, x -> x.deliver(11));
-        House x = new House();
-        fillBehind(x, Scenes::corner, 4, 598);
+        House x = House.after(h -> fillBehind(h, Scenes::corner, 4, 598));
         due("the 599th", x.send(leaf, Scenes.ROOT1, 2), 598);
         due("the 600th", x.send(leaf, Scenes.ROOT1, 2), 599);
         due("a 601st", x.send(leaf, Scenes.ROOT1, 2), -6);
@@ -375,8 +389,7 @@ public final class BoundsTest {
     }
 
     private static void needsNoLetter(String name, long answer, Scene ahead, int made, Call call) {
-        House x = new House();
-        fillBehind(x, ahead, made, 600);
+        House x = House.after(h -> fillBehind(h, ahead, made, 600));
         due(name + ", all LETTERS made", call.on(x), answer);
         due("refusals", x.status(16), 0);
     }
@@ -406,7 +419,7 @@ public final class BoundsTest {
 
     private static void weights() {
         DUE.sentence("A GATE of WEIGHT w, 2 or more, keeps w - w / 2 (cut), and a NAME with w / 2 goes; of WEIGHT 1: the name WAITS");
-        House x = built(Scenes::corner);
+        House x = House.after(Scenes::corner);
         due("exit", x.thing(Scenes.BOX, 6), 64);
         for (int half = 32; half >= 1; half /= 2) dueHalf(x, Scenes.GATE, half, half);
         due("none waits yet", x.status(5), 0);
@@ -422,7 +435,7 @@ public final class BoundsTest {
 
     private static void oddWeights() {
         DUE.sentence("keeps w - w / 2 (cut): odd ones");
-        House x = built(Scenes::withGive);
+        House x = House.after(Scenes::withGive);
         due("GIVE", x.deliver(11), 1);
         due("of 65 goes", x.letter(12, 5), 32);
         due("of 65 is kept", x.thing(Scenes.GATE, 5), 33);
@@ -434,7 +447,7 @@ public final class BoundsTest {
 
     private static void waitingNames() {
         DUE.sentence("16 at most do");
-        House x = built(Scenes::weightOne);
+        House x = House.after(Scenes::weightOne);
         for (int n = 1; n <= 16; n++) {
             due("send", x.send(Scenes.GATE, Scenes.ROOT2, 2), 9 + n);
             due("wait", x.status(5), n);
@@ -447,7 +460,7 @@ public final class BoundsTest {
 
     private static void waitingNamesOfTwoGates() {
         DUE.sentence("16 at most do, for all GATES together");
-        House x = built(Scenes::weightOne);
+        House x = House.after(Scenes::weightOne);
         x.deliver(x.send(Scenes.LEAF, Scenes.ROOT1, 1));
         due("FAR_GATE is near now", x.thing(Scenes.FAR_GATE, 5), 128);
         for (int i = 0; i < 7; i++) x.send(Scenes.FAR_GATE, Scenes.ROOT2, 2);
@@ -462,7 +475,7 @@ public final class BoundsTest {
 
     private static void waitingNamesMakeRoom() {
         DUE.sentence("the first name that WAITS there for that GATE does not any more");
-        House x = built(Scenes::allWaiting);
+        House x = House.after(Scenes::allWaiting);
         due("the first MORE", x.deliver(10), 1);
         due("16 wait still", x.status(5), 16);
         due("the GIVE", x.deliver(26), 1);
@@ -480,7 +493,7 @@ public final class BoundsTest {
 
     private static void walks() {
         DUE.sentence("20 WALKS at most are ever begun; they have numbers, from 0 on");
-        House x = built(Scenes::heldRing);
+        House x = House.after(Scenes::heldRing);
         for (int w = 0; w < 20; w++) {
             due("walk(" + w + ", 0) ahead", x.walk(w, 0), -1);
             due("doubt", x.doubt(3), w);
@@ -496,7 +509,7 @@ public final class BoundsTest {
 
     private static void endedWalksCount() {
         DUE.sentence("20 WALKS at most are ever begun: ended ones, too");
-        House x = built(Scenes::corner);
+        House x = House.after(Scenes::corner);
         x.deliver(Scenes.STEP);
         x.deliver(4);
         due("the first ended", x.walk(0, 0), 1);

@@ -50,12 +50,6 @@ public final class EdgesTest {
         DUE.due(call, got, want);
     }
 
-    private static House built(Scene scene) {
-        House x = new House();
-        scene.build(x);
-        return x;
-    }
-
     // ---- THINGS
 
     private static void newObject() {
@@ -132,7 +126,7 @@ public final class EdgesTest {
 
     private static void leadsNotOverGates() {
         DUE.sentence("a GATE to nothing else: it has no PLACES");
-        House x = built(Scenes::heldRing);
+        House x = House.after(Scenes::heldRing);
         x.clear(0, 0);
         due("gate 5 is NEAR", x.put(1, 3, 5), 1);
         due("its THING is not", x.leaf(3, 1, 1), -5);
@@ -160,7 +154,7 @@ public final class EdgesTest {
 
     private static void exitsAtFirst() {
         DUE.sentence("an EXIT: the WEIGHT that is OUT, 0 at first");
-        House x = built(Scenes::corner);
+        House x = House.after(Scenes::corner);
         for (int t : new int[] {Scenes.ROOT0, Scenes.ROOT1, Scenes.FAR_BOX, Scenes.FAR_LEAF, Scenes.GATE, Scenes.FREED}) {
             due("exit of " + t, x.thing(t, 6), 0);
             due("broken of " + t, x.thing(t, 7), 0);
@@ -173,7 +167,7 @@ public final class EdgesTest {
 
     private static void exitsOfFreedOnes() {
         DUE.sentence("It stays when its THING is freed");
-        House x = built(Scenes::brokenRing);
+        House x = House.after(Scenes::brokenRing);
         due("clean(0)", x.clean(0), 2);
         for (int what = 0; what <= 5; what++) due("thing(3, " + what + ")", x.thing(3, what), -1);
         due("its EXIT", x.thing(3, 6), 64);
@@ -186,7 +180,7 @@ public final class EdgesTest {
 
     private static void gatesStandForNoGates() {
         DUE.sentence("GATE (it stands for a THING, that is no GATE, of another HOST)");
-        House x = built(Scenes::heldRing);
+        House x = House.after(Scenes::heldRing);
         x.deliver(x.send(5, 2, 0));
         due("a gate sent on", x.holds(2, 0), 7);
         due("its kind", x.thing(7, 0), 3);
@@ -199,7 +193,7 @@ public final class EdgesTest {
 
     private static void oneGateForAThing() {
         DUE.sentence("of one HOST there is at most one GATE for a THING");
-        House x = built(Scenes::heldRing);
+        House x = House.after(Scenes::heldRing);
         x.root(1, 2);
         x.deliver(x.send(3, 7, 0));
         due("by another ROOT", x.holds(7, 0), 5);
@@ -217,7 +211,7 @@ public final class EdgesTest {
 
     private static void underWayUntilDelivered() {
         DUE.sentence("A LETTER is UNDER WAY until it is delivered");
-        House x = built(Scenes::withGive);
+        House x = House.after(Scenes::withGive);
         for (int l : new int[] {2, 3, 4, 9, 11}) due("letter(" + l + ", 1)", x.letter(l, 1), 1);
         for (int l : new int[] {0, 1, 10}) due("letter(" + l + ", 1)", x.letter(l, 1), 0);
         due("under way", x.status(3), 9);
@@ -253,7 +247,7 @@ public final class EdgesTest {
 
     private static void deliveredThreeTimes() {
         DUE.sentence("deliver: 1; 0 if it was before");
-        House x = built(Scenes::corner);
+        House x = House.after(Scenes::corner);
         due("the first time", x.deliver(2), 1);
         due("the second time", x.deliver(2), 0);
         due("the third time", x.deliver(2), 0);
@@ -263,7 +257,7 @@ public final class EdgesTest {
 
     private static void sixtyFourEachTime() {
         DUE.sentence("if x is no GATE, 64 are added to its EXIT, and a NAME with x and 64 goes to the ROOT's HOST");
-        House x = built(Scenes::heldRing);
+        House x = House.after(Scenes::heldRing);
         for (int n = 1; n <= 10; n++) {
             int l = x.send(2, n % 2, 7);
             due("EXIT", x.thing(2, 6), 64 * n);
@@ -276,7 +270,7 @@ public final class EdgesTest {
 
     private static void nameThatTakesTheLast() {
         DUE.sentence("NAME: at the THING's own HOST its WEIGHT is taken from the EXIT, and the PLACE of the ROOT holds the THING");
-        House x = built(Scenes::withHomeward);
+        House x = House.after(Scenes::withHomeward);
         due("WEIGHT", x.letter(4, 5), 32);
         x.clear(Scenes.ROOT1, 0);
         due("the gate and the far one", x.clean(1), 2);
@@ -291,7 +285,7 @@ public final class EdgesTest {
 
     private static void nameForAGateThatIsNotNear() {
         DUE.sentence("elsewhere the HOST's GATE for the THING gets its WEIGHT more: a GATE that is not NEAR");
-        House x = built(Scenes::corner);
+        House x = House.after(Scenes::corner);
         due("a NAME for FAR_GATE", x.deliver(x.send(Scenes.LEAF, Scenes.ROOT1, 3)), 1);
         due("the place", x.holds(Scenes.ROOT1, 3), Scenes.FAR_GATE);
         due("WEIGHT", x.thing(Scenes.FAR_GATE, 5), 128);
@@ -300,7 +294,7 @@ public final class EdgesTest {
 
     private static void nameForAGateThatWasFreed() {
         DUE.sentence("or a new GATE is made with it, and the PLACE holds that");
-        House x = built(Scenes::corner);
+        House x = House.after(Scenes::corner);
         x.clean(1);
         due("gate(1, LEAF)", x.gate(1, Scenes.LEAF), -1);
         due("a NAME", x.deliver(x.send(Scenes.LEAF, Scenes.ROOT1, 3)), 1);
@@ -312,7 +306,7 @@ public final class EdgesTest {
 
     private static void nameOverWhatAPlaceHeld() {
         DUE.sentence("the PLACE of the ROOT holds the THING: whatever it held");
-        House x = built(Scenes::corner);
+        House x = House.after(Scenes::corner);
         x.row(Scenes.ROOT1, 2, 3, 4);
         int overRow = x.send(Scenes.LEAF, Scenes.ROOT1, 2);
         int overGate = x.send(Scenes.LEAF, Scenes.ROOT1, 0);
@@ -327,7 +321,7 @@ public final class EdgesTest {
 
     private static void moreAdds() {
         DUE.sentence("MORE: 64 are added to the THING's EXIT, and a GIVE with 64 goes to the HOST from which it came");
-        House x = built(Scenes::withMore);
+        House x = House.after(Scenes::withMore);
         due("EXIT", x.thing(Scenes.BOX, 6), 64);
         due("deliver", x.deliver(10), 1);
         due("EXIT then", x.thing(Scenes.BOX, 6), 128);
@@ -339,7 +333,7 @@ public final class EdgesTest {
 
     private static void giveToAGateThatIsNotNear() {
         DUE.sentence("it is SENT, as told: though its GATE is not NEAR any more");
-        House x = built(Scenes::withGive);
+        House x = House.after(Scenes::withGive);
         x.clear(Scenes.ROOT1, 0);
         due("not NEAR", x.send(Scenes.GATE, Scenes.ROOT2, 2), -5);
         due("kept", x.clean(1), 1);
@@ -354,7 +348,7 @@ public final class EdgesTest {
 
     private static void giveServesTheFirst() {
         DUE.sentence("WAITS (16 at most do, in order): GIVE: the first name");
-        House x = built(Scenes::weightOne);
+        House x = House.after(Scenes::weightOne);
         for (int place = 0; place < 3; place++) x.send(Scenes.GATE, Scenes.ROOT2, 2 - place);
         for (int more = 12; more >= 10; more--) x.deliver(more);
         for (int give = 13; give <= 15; give++) x.deliver(give);
@@ -367,7 +361,7 @@ public final class EdgesTest {
     /** Gates of hosts 1 and 2 for one THING, both of WEIGHT 1, and a name waits for each. */
     private static void giveServesItsHost() {
         DUE.sentence("the first name that WAITS there for that GATE");
-        House x = built(Scenes::weightOne);
+        House x = House.after(Scenes::weightOne);
         x.deliver(9);
         int second = x.gate(2, Scenes.BOX);
         due("WEIGHT", x.thing(second, 5), 1);
@@ -407,7 +401,7 @@ public final class EdgesTest {
 
     private static void homeMendsOnlyAtZero() {
         DUE.sentence("HOME: its WEIGHT is taken from the THING's EXIT (an EXIT of 0 is BROKEN no more)");
-        House x = built(EdgesTest::threeBoxes);
+        House x = House.after(EdgesTest::threeBoxes);
         for (int t = 3; t <= 5; t++) {
             walkToTheEnd(x, t);
             due("broken " + t, x.thing(t, 7), 1);
@@ -426,7 +420,7 @@ public final class EdgesTest {
 
     private static void homeToAFreedOne() {
         DUE.sentence("HOME: its WEIGHT is taken from the THING's EXIT: of a freed one, too");
-        House x = built(Scenes::withHome);
+        House x = House.after(Scenes::withHome);
         x.deliver(8);
         due("clean(1)", x.clean(1), 2);
         due("EXIT", x.thing(3, 6), 64);
@@ -448,7 +442,7 @@ public final class EdgesTest {
 
     private static void keptByAnExitOfOne() {
         DUE.sentence("KEPT: or its THINGS whose EXIT is above 0");
-        House x = built(EdgesTest::exitOfOne);
+        House x = House.after(EdgesTest::exitOfOne);
         due("EXIT", x.thing(Scenes.BOX, 6), 1);
         due("WEIGHT", x.thing(Scenes.GATE, 5), 1);
         due("only what it does not lead to", x.clean(0), 2);
@@ -467,9 +461,9 @@ public final class EdgesTest {
 
     private static void keptByWhatIsNotBroken() {
         DUE.sentence("KEPT: whose EXIT is above 0 and not BROKEN");
-        House x = built(Scenes::ring);
+        House x = House.after(Scenes::ring);
         due("ahead of the WALK", x.clean(0), 0);
-        House y = built(Scenes::brokenRing);
+        House y = House.after(Scenes::brokenRing);
         due("EXIT", y.thing(3, 6), 64);
         due("after the WALK", y.clean(0), 2);
         due("freed(0)", y.freed(0), 3);
@@ -479,7 +473,7 @@ public final class EdgesTest {
 
     private static void keptWhileANameWaits() {
         DUE.sentence("KEPT: and GATES for which a name WAITS");
-        House x = built(Scenes::withMore);
+        House x = House.after(Scenes::withMore);
         x.clear(Scenes.ROOT1, 0);
         due("clean(1)", x.clean(1), 1);
         due("not the one for which a name waits", x.thing(Scenes.GATE, 0), 3);
@@ -493,7 +487,7 @@ public final class EdgesTest {
 
     private static void cleansOneHost() {
         DUE.sentence("CLEANING a HOST: Its other THINGS are freed");
-        House x = built(Scenes::corner);
+        House x = House.after(Scenes::corner);
         due("clean(3), no THINGS", x.clean(3), 0);
         due("clean(2), nothing to free", x.clean(2), 0);
         due("clean(1)", x.clean(1), 1);
@@ -516,7 +510,7 @@ public final class EdgesTest {
 
     private static void freedOfTheLatest() {
         DUE.sentence("freed: The i-th THING that the latest clean() freed that was not refused; NONE");
-        House x = built(Scenes::corner);
+        House x = House.after(Scenes::corner);
         due("of clean(2)", x.freed(0), Scenes.FREED);
         due("refused", x.clean(8), -1);
         due("of clean(2) still", x.freed(0), Scenes.FREED);
@@ -539,14 +533,14 @@ public final class EdgesTest {
 
     private static void lettersOfEachKind() {
         DUE.sentence("letter: 5 WEIGHT (0), 6 ROOT (NONE), 7 PLACE (NONE), 8 WALK (NONE), 9 how many STEPS a BACK tells (0). NONE: no such LETTER, another what");
-        House x = built(Scenes::withGive);
+        House x = House.after(Scenes::withGive);
         dueLetter(x, 0, 0, 0, 1, 0, Scenes.BOX, 64, Scenes.ROOT1, 0, -1, 0);
         dueLetter(x, 2, 0, 1, 2, 0, Scenes.LEAF, 64, Scenes.ROOT2, 1, -1, 0);
         dueLetter(x, 3, 4, 1, 0, 0, Scenes.BOX, 0, -1, -1, 0, 0);
         dueLetter(x, 10, 1, 0, 0, 1, Scenes.BOX, 0, -1, -1, -1, 0);
         dueLetter(x, 11, 2, 1, 1, 0, Scenes.BOX, 64, -1, -1, -1, 0);
         for (int l : new int[] {-1, 12, 600, LOW, HIGH}) due("letter(" + l + ", 0)", x.letter(l, 0), -1);
-        House y = built(Scenes::stepForAFreedOne);
+        House y = House.after(Scenes::stepForAFreedOne);
         dueLetter(y, 3, 4, 0, 1, 0, 4, 0, -1, -1, 0, 0);
         dueLetter(y, 4, 5, 0, 0, 0, 3, 0, -1, -1, 0, 1);
         dueLetter(y, 6, 5, 0, 0, 1, 4, 0, -1, -1, 0, 1);
@@ -558,7 +552,7 @@ public final class EdgesTest {
 
     private static void whatsOfThings() {
         DUE.sentence("thing: NONE: a freed THING (but for 6, 7), no such THING, another what");
-        House x = built(Scenes::corner);
+        House x = House.after(Scenes::corner);
         for (int t : new int[] {Scenes.ROOT0, Scenes.BOX, Scenes.LEAF, Scenes.GATE, Scenes.FREED}) {
             for (int what : new int[] {-1, 8, 9, LOW, HIGH}) due("thing(" + t + ", " + what + ")", x.thing(t, what), -1);
         }
@@ -599,7 +593,7 @@ public final class EdgesTest {
 
     private static void rowOfTheLongest() {
         DUE.sentence("each one's PLACE holds the next, or it is a GATE for the next, or it is a ROOT and a NAME with the next is UNDER WAY to it");
-        House x = built(Scenes::heldRing);
+        House x = House.after(Scenes::heldRing);
         x.clear(0, 0);
         dueRow(x, 4, 1, 4);
         dueRow(x, 5, 1, 4, 5);
@@ -640,7 +634,7 @@ public final class EdgesTest {
     /** A HOME, a STEP and a BACK are under way. */
     private static void meantByNoOtherLetter() {
         DUE.sentence("MEANT: of a NAME, of no other LETTER");
-        House x = built(Scenes::stepForAFreedOne);
+        House x = House.after(Scenes::stepForAFreedOne);
         due("a HOME, a STEP and a BACK", x.status(3), 3);
         due("dead(0)", x.dead(0), 4);
         due("dead(1)", x.dead(1), 5);
@@ -651,7 +645,7 @@ public final class EdgesTest {
 
     private static void auditOfEachLetter() {
         DUE.sentence("audit: 1 the sum of the WEIGHTS of all GATES for it and of LETTERS UNDER WAY with it. NONE: another THING, what");
-        House x = built(Scenes::withGive);
+        House x = House.after(Scenes::withGive);
         due("NAMES, a GIVE and a gate", x.audit(Scenes.BOX, 1), 128);
         due("EXIT", x.audit(Scenes.BOX, 0), 128);
         x.deliver(11);

@@ -8,6 +8,13 @@ final class House {
     private final FarHold real = new FarHold();
     private int calls = 0;
 
+    /** A new one, after a scene. */
+    static House after(Scene scene) {
+        House x = new House();
+        scene.build(x);
+        return x;
+    }
+
     int callsLeft() {
         return MOST_CALLS - calls;
     }

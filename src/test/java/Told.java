@@ -40,10 +40,7 @@ final class Told {
     }
 
     private House house() {
-        if (x == null || x.callsLeft() == 0) {
-            x = new House();
-            scene.build(x);
-        }
+        if (x == null || x.callsLeft() == 0) x = House.after(scene);
         return x;
     }
 

@@ -36,17 +36,12 @@ public final class WalkEdgesTest {
         aliveAboveTheSum();
         sumOfTwoGates();
         aliveByOneThatIsAlive();
+        brokenAndAlive();
         DUE.end();
     }
 
     private static void due(String call, long got, long want) {
         DUE.due(call, got, want);
-    }
-
-    private static House built(Scene scene) {
-        House x = new House();
-        scene.build(x);
-        return x;
     }
 
     /** Delivers STEPS and BACKS from a letter on, in order, until there are no more; answers how the walk ended. */
@@ -71,7 +66,7 @@ public final class WalkEdgesTest {
      * is rooted, has noted the COUNT of host 0 alone, and ends behind the call.
      */
     private static void counts(String name, int inAll, boolean atHost0, Scene ahead, Scene call) {
-        House x = built(Scenes::corner);
+        House x = House.after(Scenes::corner);
         ahead.build(x);
         int step = x.status(2);
         int walk = x.doubt(Scenes.BOX);
@@ -212,7 +207,7 @@ public final class WalkEdgesTest {
 
     private static void begunAtAnExitOfOne() {
         DUE.sentence("A WALK is begun at a THING x with an EXIT above 0 that is not BROKEN");
-        House x = built(WalkEdgesTest::ringOfOne);
+        House x = House.after(WalkEdgesTest::ringOfOne);
         due("EXIT", x.thing(3, 6), 1);
         due("an EXIT of 1", x.doubt(3), 0);
         due("an EXIT of 0", x.doubt(0), -5);
@@ -224,7 +219,7 @@ public final class WalkEdgesTest {
 
     private static void begunFirstStep() {
         DUE.sentence("a STEP for x goes to its HOST, without a GATE");
-        House x = built(Scenes::stepWithAGate);
+        House x = House.after(Scenes::stepWithAGate);
         int[] step = {4, 1, 0, 0, 3, 0, -1, -1, 0, 0};
         for (int what = 0; what <= 9; what++) due("letter(2, " + what + ")", x.letter(2, what), step[what]);
         due("only that one", x.status(2), 3);
@@ -235,7 +230,7 @@ public final class WalkEdgesTest {
 
     private static void toldOfAWalk() {
         DUE.sentence("walk: NONE: no such WALK, another what");
-        House x = built(Scenes::stepWithAGate);
+        House x = House.after(Scenes::stepWithAGate);
         int[] want = {0, 3, 1, 0, 0, 0};
         for (int what = 0; what <= 5; what++) due("walk(0, " + what + ")", x.walk(0, what), want[what]);
         for (int what : new int[] {-1, 6, 7, LOW, HIGH}) due("walk(0, " + what + ")", x.walk(0, what), -1);
@@ -246,7 +241,7 @@ public final class WalkEdgesTest {
 
     private static void heldWithoutItself() {
         DUE.sentence("HELD is a THING y by those THINGS of its HOST, without y");
-        House x = built(Scenes::heldRing);
+        House x = House.after(Scenes::heldRing);
         x.put(3, 1, 3);
         x.put(4, 1, 4);
         x.clear(0, 0);
@@ -267,7 +262,7 @@ public final class WalkEdgesTest {
 
     private static void heldByOneWithAnExit() {
         DUE.sentence("HELD: that have an EXIT above 0");
-        House x = built(WalkEdgesTest::ringWithAHolder);
+        House x = House.after(WalkEdgesTest::ringWithAHolder);
         for (int i = 0; i < 6; i++) x.deliver(x.send(8, 1, 2));
         x.clear(1, 2);
         due("EXIT of the holder", x.thing(7, 6), 1);
@@ -282,11 +277,11 @@ public final class WalkEdgesTest {
     }
 
     /**
-     * Box 7 of host 1 holds the gate for box 3, too, and box 8 of host 2, to
-     * which box 3 leads, holds one for box 7. 7 and 8 are broken, and 8 is
-     * freed: so 7 is BROKEN, has an EXIT, and no walk from 3 passes it.
+     * The ring, where box 7 of host 1 holds the gate for box 3, too; box 3
+     * leads to box 8 of host 2, and that to box 7. Other places of box 3 may
+     * lead to box 7, too.
      */
-    private static void ringWithABrokenHolder(House x) {
+    private static void widerRing(House x, boolean threeLeadsToSeven) {
         Scenes.heldRing(x);
         x.box(1, 2, 1);
         x.put(7, 0, 5);
@@ -295,26 +290,35 @@ public final class WalkEdgesTest {
         x.put(3, 1, x.holds(0, 1));
         x.deliver(x.send(7, 2, 1));
         x.put(8, 0, x.holds(2, 1));
+        if (threeLeadsToSeven) {
+            x.deliver(x.send(7, 0, 1));
+            x.put(3, 2, x.holds(0, 1));
+        }
         for (int place = 0; place <= 2; place++) {
             for (int root = 0; root <= 2; root++) x.clear(root, place);
         }
     }
 
-    private static void heldByOneThatIsNotBroken() {
-        DUE.sentence("HELD: not BROKEN");
-        House x = built(WalkEdgesTest::ringWithABrokenHolder);
+    /** 7 and 8 are broken, and 8 is freed: so 7 is BROKEN, with the HOME of its gate in 8 under way. */
+    private static void breakSevenAndEight(House x) {
         due("7 is broken", walkFrom(x, 7), BROKEN);
         due("8 is broken", walkFrom(x, 8), BROKEN);
         due("8 is freed", x.clean(2), 2);
-        due("EXIT of 7, its HOME under way", x.thing(7, 6), 64);
         due("7 is there", x.thing(7, 0), 1);
+    }
+
+    private static void heldByOneThatIsNotBroken() {
+        DUE.sentence("HELD: not BROKEN");
+        House x = House.after(h -> widerRing(h, false));
+        breakSevenAndEight(x);
+        due("EXIT of 7", x.thing(7, 6), 64);
         due("7 holds nothing", walkFrom(x, 3), BROKEN);
         due("7 was not passed", x.walk(2, 4), 2);
     }
 
     private static void heldByWhatWasNotPassed() {
         DUE.sentence("ALIVE: HELD by one that was not PASSED");
-        House x = built(WalkEdgesTest::ringWithAHolder);
+        House x = House.after(WalkEdgesTest::ringWithAHolder);
         due("held by 7", walkFrom(x, 3), MEANT);
         due("7 was not passed", x.walk(0, 4), 2);
         x.clear(2, 0);
@@ -324,7 +328,7 @@ public final class WalkEdgesTest {
 
     private static void heldByOneThatLeads() {
         DUE.sentence("HELD: by those THINGS of its HOST that LEAD to it");
-        House x = built(Scenes::heldRing);
+        House x = House.after(Scenes::heldRing);
         x.box(0, 2, 1);
         x.deliver(x.send(7, 2, 0));
         x.clear(0, 2);
@@ -335,7 +339,7 @@ public final class WalkEdgesTest {
 
     private static void rootedByAnyRoot() {
         DUE.sentence("ROOTED is one if it is NEAR");
-        House x = built(Scenes::heldRing);
+        House x = House.after(Scenes::heldRing);
         due("both", walkFrom(x, 3), MEANT);
         x.clear(0, 0);
         due("its gate", walkFrom(x, 3), MEANT);
@@ -349,7 +353,7 @@ public final class WalkEdgesTest {
 
     private static void rootedWhileANameWaits() {
         DUE.sentence("ROOTED: or is a GATE for which a name WAITS");
-        House x = built(Scenes::heldRing);
+        House x = House.after(Scenes::heldRing);
         for (int i = 0; i < 6; i++) x.deliver(x.send(5, 0, 1));
         due("it waits", x.letter(x.send(5, 2, 0), 0), 1);
         x.clear(0, 1);
@@ -364,7 +368,7 @@ public final class WalkEdgesTest {
 
     private static void passedOnce() {
         DUE.sentence("if y was not PASSED by the WALK, it is PASSED; 0 if y was PASSED before");
-        House x = built(Scenes::stepForAPassedOne);
+        House x = House.after(Scenes::stepForAPassedOne);
         due("passed", x.walk(0, 4), 2);
         due("deliver the STEP for the first", x.deliver(5), 1);
         due("passed then", x.walk(0, 4), 2);
@@ -380,7 +384,7 @@ public final class WalkEdgesTest {
     /** Box 3 leads to gate 6 twice, and gate 6 is led to by box 7, too. */
     private static void metOnce() {
         DUE.sentence("each GATE to which y LEADS and that the WALK has not MET is MET");
-        House x = built(Scenes::heldRing);
+        House x = House.after(Scenes::heldRing);
         x.put(3, 1, 6);
         x.box(3, 2, 2);
         x.put(7, 0, 6);
@@ -403,7 +407,7 @@ public final class WalkEdgesTest {
 
     private static void stepForAFreedOne() {
         DUE.sentence("0 if y is not there any more");
-        House x = built(Scenes::stepForAFreedOne);
+        House x = House.after(Scenes::stepForAFreedOne);
         due("passed", x.walk(1, 4), 1);
         due("deliver", x.deliver(10), 1);
         due("passed then", x.walk(1, 4), 1);
@@ -427,7 +431,7 @@ public final class WalkEdgesTest {
 
     private static void freedAheadOfTheFirstStep() {
         DUE.sentence("ALIVE are no others than: a PASSED y: x freed ahead of its STEP");
-        House x = built(WalkEdgesTest::doubtOfOneThatGoes);
+        House x = House.after(WalkEdgesTest::doubtOfOneThatGoes);
         x.clear(0, 0);
         due("freed", x.clean(0), 1);
         due("its STEP", x.deliver(2), 1);
@@ -441,17 +445,17 @@ public final class WalkEdgesTest {
 
     private static void exitGoneAheadOfTheFirstStep() {
         DUE.sentence("its EXIT, as noted: 0, and not above the sum of no WEIGHTS");
-        House x = built(WalkEdgesTest::doubtOfOneThatGoes);
+        House x = House.after(WalkEdgesTest::doubtOfOneThatGoes);
         due("EXIT", x.thing(2, 6), 0);
         due("ROOTED", walkOn(x, 0, 2), MEANT);
-        House y = built(WalkEdgesTest::doubtOfOneThatGoes);
+        House y = House.after(WalkEdgesTest::doubtOfOneThatGoes);
         y.clear(0, 0);
         due("not ROOTED", walkOn(y, 0, 2), BROKEN);
     }
 
     private static void endsAtTheLastBack() {
         DUE.sentence("When as many are BACK as STEPS went (1, and those of which BACKS told), the WALK ends");
-        House x = built(Scenes::stepWithAGate);
+        House x = House.after(Scenes::stepWithAGate);
         int[][] told = {{1, 0}, {1, 0}, {2, 1}, {2, 1}, {3, 2}};
         int[] letters = {2, 3, 4, 5, 6};
         for (int i = 0; i < letters.length; i++) {
@@ -470,7 +474,7 @@ public final class WalkEdgesTest {
 
     private static void lettersAfterTheEnd() {
         DUE.sentence("A STEP, a BACK, delivered while the WALK is under way: not when it ended");
-        House x = built(Scenes::endedWalk);
+        House x = House.after(Scenes::endedWalk);
         int[] want = {BROKEN, 3, 2, 2, 2, 3};
         due("a STEP", x.deliver(7), 1);
         due("a BACK", x.deliver(8), 1);
@@ -483,12 +487,12 @@ public final class WalkEdgesTest {
 
     private static void changedGoesAhead() {
         DUE.sentence("the WALK ends: CHANGED (2), if the COUNT of a HOST is not as noted; else MEANT (1)");
-        House x = built(Scenes::heldRing);
+        House x = House.after(Scenes::heldRing);
         x.doubt(3);
         x.deliver(2);
         x.leaf(0, 7, 1);
         due("though x is ROOTED", walkOn(x, 0, 3), CHANGED);
-        House y = built(Scenes::stepWithAGate);
+        House y = House.after(Scenes::stepWithAGate);
         for (int l = 2; l <= 6; l++) y.deliver(l);
         y.leaf(1, 7, 1);
         due("though x is not ALIVE", walkOn(y, 0, 7), CHANGED);
@@ -498,7 +502,7 @@ public final class WalkEdgesTest {
 
     private static void unchangedUntilNoted() {
         DUE.sentence("noted are the COUNT of its HOST (once for each HOST)");
-        House x = built(Scenes::stepWithAGate);
+        House x = House.after(Scenes::stepWithAGate);
         x.leaf(0, 7, 1);
         x.deliver(2);
         x.leaf(1, 7, 1);
@@ -520,7 +524,7 @@ public final class WalkEdgesTest {
 
     private static void aliveAboveTheSum() {
         DUE.sentence("a PASSED y whose EXIT, as noted, is above the sum of the WEIGHTS noted of GATES for y that were MET");
-        House x = built(WalkEdgesTest::oneMoreOut);
+        House x = House.after(WalkEdgesTest::oneMoreOut);
         due("EXIT", x.thing(3, 6), 2);
         due("MET", x.thing(5, 5), 1);
         due("above by 1", walkFrom(x, 3), MEANT);
@@ -536,7 +540,7 @@ public final class WalkEdgesTest {
     /** The ring with box 7 of host 2, to which box 3 leads, too, and that has the gate for box 3 that is out there. */
     private static void sumOfTwoGates() {
         DUE.sentence("the sum of the WEIGHTS noted of GATES for y");
-        House x = built(Scenes::heldRing);
+        House x = House.after(Scenes::heldRing);
         x.box(2, 1, 1);
         x.deliver(x.send(3, 2, 0));
         x.put(7, 0, x.holds(2, 0));
@@ -556,7 +560,7 @@ public final class WalkEdgesTest {
     /** A NAME with box 4 is under way: 4 is ALIVE, so gate 5 is held, so 3 is. */
     private static void aliveByOneThatIsAlive() {
         DUE.sentence("ALIVE: HELD by one that is ALIVE");
-        House x = built(Scenes::heldRing);
+        House x = House.after(Scenes::heldRing);
         int name = x.send(4, 2, 0);
         x.clear(0, 0);
         x.clear(1, 0);
@@ -567,5 +571,16 @@ public final class WalkEdgesTest {
         x.clean(2);
         x.deliver(x.status(2) - 1);
         due("without", walkFrom(x, 3), BROKEN);
+    }
+
+    /** With the HOME under way the EXIT of 7 is above what the walk from 3 finds in gates: 7 is ALIVE, yet BROKEN. */
+    private static void brokenAndAlive() {
+        DUE.sentence("ALIVE: HELD by one that is ALIVE: a BROKEN one holds nothing, ALIVE or not");
+        House x = House.after(h -> widerRing(h, true));
+        breakSevenAndEight(x);
+        due("EXIT of 7", x.thing(7, 6), 128);
+        due("of it in a gate", x.thing(x.gate(0, 7), 5), 64);
+        due("7 holds nothing", walkFrom(x, 3), BROKEN);
+        due("passed: 3, 4 and 7", x.walk(2, 4), 3);
     }
 }

@@ -39,26 +39,11 @@ public final class WalksTest {
 
     /** Roots 0, 1 and 2 of hosts 0, 1 and 2; box 3 of host 0 with gate 6 for box 4 of host 1, that has gate 5 for box 3. Both are in place 0 of their roots. */
     private static House ring() {
-        House x = new House();
-        for (int host = 0; host < 3; host++) x.root(host, 8);
-        x.box(0, 0, 4);
-        x.box(1, 0, 4);
-        x.send(3, 1, 1);
-        x.deliver(0);
-        x.put(4, 0, 5);
-        x.clear(1, 1);
-        x.send(4, 0, 1);
-        x.deliver(1);
-        x.put(3, 0, 6);
-        x.clear(0, 1);
-        return x;
+        return House.after(Scenes::heldRing);
     }
 
     private static House ringAlone() {
-        House x = ring();
-        x.clear(0, 0);
-        x.clear(1, 0);
-        return x;
+        return House.after(Scenes::ring);
     }
 
     /** Delivers each letter from one on, until there are no more, and answers how the walk ended. */
