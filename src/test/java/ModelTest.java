@@ -337,6 +337,8 @@ public final class ModelTest {
         due.due(title + "audit(" + t + ", " + what + ")", asked().audit(t, what), model.audit(t, what));
         int l = upTo(model.letters.size() + 1);
         due.due(title + "letter(" + l + ", " + what + ")", asked().letter(l, what), model.letter(l, what));
+        int w = upTo(model.walks.size() + 1);
+        due.due(title + "walk(" + w + ", " + what + ")", asked().walk(w, what), model.walk(w, what));
         int i = upTo(4);
         due.due(title + "freed(" + i + ")", asked().freed(i), model.freed(i));
         due.due(title + "dead(" + i + ")", asked().dead(i), model.dead(i));
